@@ -118,6 +118,11 @@ public final class Promises {
         x.prove(3);
         x.seed(77);
         x.comes(0);
+        x.mind(0, 5, 1);
+        x.noes(0, 1);
+        x.comes(0);
+        due(x.many(3), 1);
+        due(x.many(4), 1);
         due(x.many(5), 3);
         due(village("sayer age 1;quick age 2 noes 0; bar age 0 bar 255 noes 9;wait age 99;league age 007;told age 5 bar 3;"
             + "proposal 0;proposal 9 worth -9 , - 0,9;need 3;need 2;turn;grow 20;"), 6);
@@ -152,6 +157,8 @@ public final class Promises {
         due(x.law(1), 0);
         due(x.law(2), 0);
         due(village("  "), 0);
+        due(village("wait age 0 bar 0;"), 1);
+        due(x.personOf(0, 1), 0);
         // Persons told behind a proposal have 0 of it.
         due(village("quick age 5;proposal 1 worth 4;quick age 5;grow 0;"), 2);
         due(x.proposalOf(0, 0), 14);
@@ -195,6 +202,13 @@ public final class Promises {
         fault("quick age 1 noes 10;", 17);
         fault("quick age 1 noes;", 16);
         fault("quick age 1 worth;", 12);
+        fault("quick age 1 bar turn;", 16);
+        fault("quick age 1 noes turn;", 17);
+        fault("quick age turn;", 10);
+        fault("proposal turn;", 9);
+        fault("need turn;", 5);
+        fault("quick age 1;proposal 1 worth turn;", 29);
+        fault("quick age 1 turn;", 12);
         fault("quick age 1", 11);
         fault("quick age 1;;", 12);
         fault("proposal", 8);
@@ -270,6 +284,7 @@ public final class Promises {
             due(x.personOf(p, 0), p);
             due(x.personOf(p, 1), p + 1);
             due(x.personOf(p, 2), 10 * p + 10);
+            due(x.personOf(p, 3), p + 1);
             due(x.proposalOf(0, p), p + 12);
             due(x.had(p), 100002 + p);
         }
@@ -383,7 +398,9 @@ public final class Promises {
         due(x.set(2, -1), -1);
         due(x.set(3, 1), -1);
         due(x.set(-1, 1), -1);
-        due(x.set(2, 4), 20);
+        due(x.set(2, 0), 20);
+        due(x.law(2), 0);
+        due(x.set(2, 4), 0);
 
         promise = 15;
         due(x.law(0), 1);
@@ -429,6 +446,14 @@ public final class Promises {
         x.worth(0, 0, -3);
         x.worth(0, 1, 0);
         due(x.would(0), 0);
+        // He who is waited for may be the first one.
+        x.mind(0, 1, 0);
+        x.mind(1, 3, 0);
+        x.worth(0, 1, -2);
+        due(x.would(0), 1);
+        x.noes(0, 0);
+        due(x.would(0), 2);
+        x.mind(0, 0, 0);
         // told: the bit of the proposal, whatever its worth.
         x.mind(1, 5, 128);
         for (int q = 1; q < 8; q++) x.proposal(1);
@@ -484,8 +509,14 @@ public final class Promises {
         x.noes(1, 0);
         x.noes(3, 0);
         due(x.says(0), 5);
+        x.set(0, 1);
+        due(x.says(0), 4);
+        x.noes(2, 0);
+        x.person(1, 0, 20, 1);
+        x.worth(0, 5, -1);
+        due(x.says(0), 1);
         x.set(1, 0);
-        due(x.says(0), 5);
+        due(x.says(0), 33);
     }
 
     static void years() {
@@ -601,14 +632,26 @@ public final class Promises {
         due(x.value(0, 3, 1), 1);
         x.set(2, 1);
         due(x.value(0, 3, 0), 3);
+        // Each year ahead has its number: from year 2 on noes grow at the end of year 3.
+        x.comes(0);
+        x.noes(0, 1);
+        x.set(2, 3);
+        due(x.value(0, 3, 0), 11);
+        due(x.value(0, 3, 1), 3);
+        x.set(2, 2);
+        due(x.value(0, 2, 0), 10);
+        due(x.value(0, 2, 1), 3);
         due(x.value(0, 4, 0), LifeNoes.NO);
         due(x.value(0, -1, 0), LifeNoes.NO);
         due(x.value(0, 1, 2), LifeNoes.NO);
         due(x.value(0, 1, -1), LifeNoes.NO);
         due(x.value(1, 1, 0), LifeNoes.NO);
         due(x.value(-1, 1, 0), LifeNoes.NO);
-        due(x.law(3), 1);
-        due(x.had(0), 100000);
+        due(x.law(3), 2);
+        due(x.had(0), 100005);
+        due(village("quick age 1; proposal 1 worth 4;"), 1);
+        due(x.value(0, 2, 0), 8);
+        due(x.value(0, 2, 1), 1);
     }
 
     static void bests() {
@@ -628,6 +671,13 @@ public final class Promises {
         x.noes(0, 0);
         due(x.best(0, 2, 0), -2);
         due(x.best(0, 2, 1), 3);
+        x.comes(0);
+        x.noes(0, 1);
+        x.set(2, 3);
+        due(x.best(0, 3, 0), 11);
+        due(x.best(0, 3, 1), 3);
+        x.noes(0, 0);
+        x.set(2, 0);
         due(x.best(0, 4, 0), LifeNoes.NO);
         due(x.best(0, -1, 0), LifeNoes.NO);
         due(x.best(0, 1, 2), LifeNoes.NO);
@@ -691,6 +741,10 @@ public final class Promises {
         due(x.barOf(-1, 1), -1);
         due(x.personOf(0, 0), 1);
         due(x.personOf(0, 1), 0);
+        // He had better let a younger one say it: then that one has none left against what he likes.
+        due(village("sayer age 50;quick age 40;quick age 30 noes 9;proposal 1 worth -9,-1,-1;proposal 1 worth 9,-1;turn;"), 3);
+        due(x.barOf(0, 2), 9);
+        due(x.barOf(0, 1), 0);
     }
 
     static void letsAndHarm() {
@@ -733,6 +787,12 @@ public final class Promises {
         x.worth(3, 1, -1);
         due(x.lets(3, 0), 1);
         due(x.lets(3, 1), 0);
+
+        due(village("league age 1 noes 2;league age 1 noes 2;league age 1 noes 2;proposal 0 worth -1,0,-1;proposal 0;"), 3);
+        x.comes(1);
+        x.comes(1);
+        due(x.lets(0, 0), 1);
+        due(x.lets(0, 1), 0);
 
         begin(27);
         due(x.harm(0), -1);
@@ -844,6 +904,9 @@ public final class Promises {
         due(x.alterRow(0, -1, 0), -9);
 
         promise = 32;
+        int first = x.alterRow(0, 1, 9);
+        due(x.judge(), 1);
+        x.alterRow(0, 1, first);
         x.alterRow(5, 0, 9);
         x.alterRow(8, 1, 9);
         due(x.judge(), 6);
@@ -870,6 +933,7 @@ public final class Promises {
         due(x.worths(0, 0), -1);
         x.proposal(1);
         due(x.worths(0, 0), -11);
+        due(x.worths(0, 3), -11);
         due(x.worths(0, 4), -1);
         due(x.worths(0, -1), -1);
         due(x.worths(1, 0), -1);
@@ -957,6 +1021,10 @@ public final class Promises {
         due(x.shelf(0, 0, -1), -1);
         due(x.shelf(0, 1, 4), -1);
         due(x.shelf(0, 1, -1), -1);
+        due(x.shelf(3, 1, 3), 1);
+        due(x.shelf(3, 0, 1), 1);
+        due(x.taken(3, 0), 1);
+        due(x.act(3, 0, 1), -6);
         due(x.shelf(0, 0, 1), 1);
         due(x.taken(0, 0), 1);
         due(x.shelf(0, 0, 9), -1);
@@ -1130,6 +1198,9 @@ public final class Promises {
         x.seed(99);
         x.comes(0);
         due(x.keep(), 1);
+        x.set(0, 1);
+        x.comes(0);
+        due(x.many(3), 1);
         x.noes(0, 0);
         x.mind(0, 2, 1);
         x.worth(0, 0, 9);
