@@ -59,6 +59,7 @@ public final class Promises {
         acts();
         counts();
         keeping();
+        fullVillage();
         System.out.println(wrong == 0 ? "all promises hold" : wrong + " answers are not as promised");
         if (wrong != 0) System.exit(1);
     }
@@ -181,6 +182,7 @@ public final class Promises {
         begin(3);
         fault("Quick age 1;", 0);
         fault("quicke age 1;", 0);
+        fault("xuick age 1;", 0);
         fault("quic age 1;", 0);
         fault("   7", 3);
         fault(" \t", 1);
@@ -1257,5 +1259,66 @@ public final class Promises {
         x.person(0, 0, 0, 0);
         due(x.again(), 0);
         due(x.again(), 0);
+    }
+
+    /** All that goes over people or proposals, when there are as many as there can be, and when one is gone. */
+    static void fullVillage() {
+        begin(16);
+        for (int p = 0; p < 6; p++) x.person(4, 0, 10 + p, 9);
+        for (int q = 0; q < 8; q++) {
+            x.proposal(9);
+            for (int p = 0; p < 6; p++) x.worth(q, p, -1);
+        }
+        due(x.would(7), 2);
+        for (int p = 0; p < 6; p++) x.mind(p, 3, 0);
+        due(x.would(7), 63);
+        for (int p = 0; p < 6; p++) x.mind(p, 1, 0);
+        due(x.would(7), 63);
+        promise = 17;
+        x.set(1, 1);
+        x.set(0, 3);
+        due(x.says(7), 56);
+        promise = 22;
+        due(x.value(5, 3, 0), 0);
+        x.set(1, 0);
+        due(x.value(5, 3, 0), 0);
+        promise = 29;
+        due(x.prove(12), 12);
+        for (int i = 0; i < 12; i++) due(x.row(i, 1), i < 9 ? 63 : 0);
+        due(x.judge(), 0);
+        promise = 23;
+        for (int p = 0; p < 6; p++) x.mind(p, 0, 0);
+        x.set(0, 1);
+        due(x.value(5, 3, 0), -3);
+        due(x.value(5, 3, 1), 1);
+        due(x.best(5, 3, 0), 0);
+        x.noes(5, 0);
+        due(x.best(5, 3, 0), -3);
+        x.noes(5, 1);
+        promise = 24;
+        due(x.should(5, 7, 2), 0);
+        due(x.should(5, 7, 0), 1);
+        promise = 25;
+        due(x.barOf(5, 2), 0);
+        promise = 26;
+        due(x.lets(7, 1), 0);
+        for (int p = 0; p < 6; p++) x.mind(p, 5, 255);
+        due(x.lets(7, 1), -3);
+        promise = 27;
+        due(x.harm(2), 1);
+        promise = 28;
+        for (int p = 0; p < 5; p++) x.worth(7, p, 1);
+        due(x.spoilt(3, 0), 3);
+        due(x.spoilt(3, 1), 8);
+        promise = 19;
+        due(x.lot() >= 0 ? 1 : 0, 1);
+        promise = 41;
+        due(x.many(2), 40);
+        x.noes(5, 9);
+        due(x.leave(5), 5);
+        due(x.many(2), 40);
+        promise = 6;
+        due(x.would(7), 31);
+        due(x.says(7), 31);
     }
 }
