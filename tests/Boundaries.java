@@ -9,6 +9,7 @@ public final class Boundaries {
         TheRows.hold();
         TheHost.hold();
         WhatIsKept.hold();
+        TheTerms.hold();
         if (!Bounds.end()) System.exit(1);
     }
 }
