@@ -354,10 +354,17 @@ public final class LifeNoes {
 
     public int act(int shelf, int act, int x) {
         bodies.clear();
-        if (!within(shelf, 0, PLACES - 1) || !within(act, 0, 3)) return 0;
+        if (!within(shelf, 0, PLACES - 1)) return 0;
         Sayer thing = thingOn(shelf);
         if (thing == null) return 0;
-        int answer = answerOf(thing, act, x);
+        int answer = 0;
+        switch (act) {
+            case 0: answer = thing.bars(x); break;
+            case 1: answer = thing.waits(x); break;
+            case 2: answer = thing.shares(x); break;
+            case 3: answer = thing.tells(x); break;
+            default: return 0;
+        }
         return bodies.parted ? PARTED_BY_0 : answer;
     }
 
@@ -496,15 +503,6 @@ public final class LifeNoes {
         }
     }
 
-    private static int answerOf(Sayer thing, int act, int x) {
-        switch (act) {
-            case 0: return thing.bars(x);
-            case 1: return thing.waits(x);
-            case 2: return thing.shares(x);
-            default: return thing.tells(x);
-        }
-    }
-
     /** People, proposals and laws, and what one year does to them. */
     private static final class Village {
         int people = 0;
@@ -638,20 +636,29 @@ public final class LifeNoes {
         }
 
         int whoWould(int proposal, int year, int packed) {
-            int called = calledOfLeague(year, packed);
+            int able = whoHasNoes(packed);
+            int called = calledOfLeague(year, able);
             int set = 0;
             for (int p = 0; p < people; p++) {
-                if (noesIn(packed, p) > 0 && dislikes(proposal, p, packed, called)) set |= 1 << p;
+                if ((able >>> p & 1) == 1 && dislikes(proposal, p, able, called)) set |= 1 << p;
             }
             return set;
         }
 
-        private boolean dislikes(int proposal, int p, int packed, int called) {
+        private int whoHasNoes(int packed) {
+            int set = 0;
+            for (int p = 0; p < people; p++) {
+                if (noesIn(packed, p) > 0) set |= 1 << p;
+            }
+            return set;
+        }
+
+        private boolean dislikes(int proposal, int p, int able, int called) {
             int itsWorth = worth[proposal][p];
             switch (kind[p]) {
                 case QUICK: return itsWorth < 0;
                 case BAR: return itsWorth < -a[p];
-                case WAIT: return itsWorth < -a[p] && !hasWorseOff(proposal, p, packed);
+                case WAIT: return itsWorth < -a[p] && !hasWorseOff(proposal, p, able);
                 case LEAGUE: return itsWorth < 0 && p == called;
                 case TOLD: return (a[p] >>> proposal & 1) == 1;
                 default: return false;
@@ -659,23 +666,23 @@ public final class LifeNoes {
         }
 
         /** Whether some other person with noes has less worth of it. */
-        private boolean hasWorseOff(int proposal, int p, int packed) {
+        private boolean hasWorseOff(int proposal, int p, int able) {
             for (int other = 0; other < people; other++) {
-                if (noesIn(packed, other) > 0 && worth[proposal][other] < worth[proposal][p]) return true;
+                if ((able >>> other & 1) == 1 && worth[proposal][other] < worth[proposal][p]) return true;
             }
             return false;
         }
 
         /** The only one of the league who may say no in that year, or -1. */
-        private int calledOfLeague(int year, int packed) {
+        private int calledOfLeague(int year, int able) {
             int members = 0;
             for (int p = 0; p < people; p++) {
-                if (isInLeague(p, packed)) members++;
+                if (isInLeague(p, able)) members++;
             }
             if (members == 0) return -1;
             int place = year % members;
             for (int p = 0; p < people; p++) {
-                if (isInLeague(p, packed)) {
+                if (isInLeague(p, able)) {
                     if (place == 0) return p;
                     place--;
                 }
@@ -683,8 +690,8 @@ public final class LifeNoes {
             return -1;
         }
 
-        private boolean isInLeague(int p, int packed) {
-            return kind[p] == LEAGUE && noesIn(packed, p) > 0;
+        private boolean isInLeague(int p, int able) {
+            return kind[p] == LEAGUE && (able >>> p & 1) == 1;
         }
 
         int whoSays(int proposal, int year, int packed) {
