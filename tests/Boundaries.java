@@ -1,7 +1,7 @@
-/** Every boundary of promises 1 to 43: a test for each sentence of the document that names one. */
+/** Every sentence of promises 1 to 43 and of the Terms that they use: a test for each, those that name a boundary first. */
 public final class Boundaries {
     public static void main(String[] args) throws Exception {
-        Bounds.readDocument();
+        String document = Bounds.readDocument();
         TheText.hold();
         TheVillage.hold();
         TheYears.hold();
@@ -10,6 +10,8 @@ public final class Boundaries {
         TheHost.hold();
         WhatIsKept.hold();
         TheTerms.hold();
+        TheRest.hold();
+        TheFace.hold(document);
         if (!Bounds.end()) System.exit(1);
     }
 }

@@ -1,6 +1,7 @@
 import java.nio.file.Files;
 import java.nio.file.Path;
 import java.util.ArrayList;
+import java.util.Arrays;
 import java.util.List;
 import java.util.Set;
 import java.util.TreeSet;
@@ -23,9 +24,13 @@ abstract class Bounds {
     private static String document = "", words = "";
     private static int promise = 0, asked = 0, wrong = 0, sentences = 0;
     private static final Set<Integer> held = new TreeSet<>();
+    /** Of each sign of the document whether some sentence that was held has it. */
+    private static boolean[] covered = {};
 
-    static void readDocument() throws Exception {
+    static String readDocument() throws Exception {
         document = Files.readString(Path.of("../shared/DOC.md")).replaceAll("\\s+", " ");
+        covered = new boolean[document.length()];
+        return document;
     }
 
     /** One test: the promise, the sentence (or that part of it that names the boundary), what it asks for. */
@@ -37,6 +42,9 @@ abstract class Bounds {
         held.add(number);
         x = new LifeNoes();
         if (!document.contains(words)) say("the document has no such sentence");
+        for (int at = document.indexOf(words); at >= 0; at = document.indexOf(words, at + 1)) {
+            Arrays.fill(covered, at, at + words.length(), true);
+        }
         test.run();
         if (asked == 0) say("nothing is asked");
     }
@@ -45,9 +53,24 @@ abstract class Bounds {
         for (int i = 1; i <= 43; i++) {
             if (!held.contains(i)) System.out.println("no boundary of promise " + i + " is held");
         }
-        boolean good = wrong == 0 && held.size() == 43;
-        System.out.println(good ? "all boundaries hold, by " + sentences + " sentences" : wrong + " boundaries do not hold");
+        boolean good = wrong == 0 && held.size() == 43 && allIsHeld();
+        System.out.println(good ? "all sentences hold, by " + sentences + " tests" : wrong + " answers are not as the sentences say");
         return good;
+    }
+
+    /** Whether each word of what the document promises stands in a sentence that was held. */
+    private static boolean allIsHeld() {
+        int from = document.indexOf("## The public face"), to = document.indexOf("## Not promised"), left = 0;
+        if (from < 0 || to < from) return false;
+        for (int i = from; i < to; i++) {
+            if (covered[i] || !Character.isLetterOrDigit(document.charAt(i))) continue;
+            int end = i;
+            while (end < to && !covered[end]) end++;
+            System.out.println("no test holds: " + document.substring(i, end));
+            left++;
+            i = end;
+        }
+        return left == 0;
     }
 
     private static void say(String what) {
